@@ -1,11 +1,9 @@
 import java.util.ArrayList;
 import java.util.List;
-import java.util.NoSuchElementException;
 import java.util.Random;
 
 /** Runs of 512 random calls on the class and on the plain second one, answer by answer. */
 public final class OracleTests {
-    private static final int NO_SUCH = Integer.MIN_VALUE;
     private static final String[] NAMES = {"a", "b", "c", "dee", "e", "ff", "gamma", "h", "indigoo", "jay"};
     private final Random random;
     private final HeavyPairs x = new HeavyPairs();
@@ -341,7 +339,7 @@ public final class OracleTests {
     private void lookAround() {
         check("proof()", x.proof(), plain.proof());
         check("proofAt()", x.proofAt(), plain.proofAt());
-        check("proofBy()", proofByOf(x), proofByOf(plain));
+        check("proofBy()", TestKit.proofBy(x), plain.proofBy());
         check("gain()", x.gain(), plain.gain());
         check("next()", x.next(), plain.next());
         for (int p = 0; p < plain.s.size(); p++) {
@@ -481,7 +479,7 @@ public final class OracleTests {
                 check("proofAt()", x.proofAt(), plain.proofAt());
                 break;
             case 5:
-                check("proofBy()", proofByOf(x), proofByOf(plain));
+                check("proofBy()", TestKit.proofBy(x), plain.proofBy());
                 break;
             case 6:
                 check("bestOf(" + i + ")", x.bestOf(i), plain.bestOf(i));
@@ -511,14 +509,14 @@ public final class OracleTests {
         int what = near(5);
         switch (below(15)) {
             case 0:
-                check("point(" + p + "," + what + ")", pointOf(x, p, what), pointOf(plain, p, what));
+                check("point(" + p + "," + what + ")", TestKit.point(x, p, what), plain.point(p, what));
                 break;
             case 1:
             case 2:
                 check("link(" + l + "," + what + ")", x.link(l, what), plain.link(l, what));
                 break;
             case 3:
-                check("slack(" + l + ")", slackOf(x, l), slackOf(plain, l));
+                check("slack(" + l + ")", TestKit.slack(x, l), plain.slack(l));
                 break;
             case 4:
                 check("odd(" + k + "," + what + ")", x.odd(k, what), plain.odd(k, what));
@@ -546,7 +544,7 @@ public final class OracleTests {
                 break;
             case 12:
                 int half = near(2);
-                check("mean(" + half + ")", meanOf(x, half), meanOf(plain, half));
+                check("mean(" + half + ")", TestKit.mean(x, half), plain.mean(half));
                 break;
             case 13:
                 check("tag(" + p + ")", x.tag(p), plain.tag(p));
@@ -555,70 +553,6 @@ public final class OracleTests {
                 int n = near(21);
                 int seed = random.nextInt();
                 check("odds(" + p + "," + n + "," + seed + ")", x.odds(p, n, seed), plain.odds(p, n, seed));
-        }
-    }
-
-    private static int pointOf(HeavyPairs x, int p, int what) {
-        try {
-            return x.point(p, what);
-        } catch (NoSuchElementException e) {
-            return NO_SUCH;
-        }
-    }
-
-    private static int pointOf(Plain x, int p, int what) {
-        try {
-            return x.point(p, what);
-        } catch (NoSuchElementException e) {
-            return NO_SUCH;
-        }
-    }
-
-    private static int slackOf(HeavyPairs x, int l) {
-        try {
-            return x.slack(l);
-        } catch (NoSuchElementException e) {
-            return NO_SUCH;
-        }
-    }
-
-    private static int slackOf(Plain x, int l) {
-        try {
-            return x.slack(l);
-        } catch (NoSuchElementException e) {
-            return NO_SUCH;
-        }
-    }
-
-    private static int proofByOf(HeavyPairs x) {
-        try {
-            return x.proofBy();
-        } catch (NoSuchElementException e) {
-            return NO_SUCH;
-        }
-    }
-
-    private static int proofByOf(Plain x) {
-        try {
-            return x.proofBy();
-        } catch (NoSuchElementException e) {
-            return NO_SUCH;
-        }
-    }
-
-    private static int meanOf(HeavyPairs x, int what) {
-        try {
-            return x.mean(what);
-        } catch (NoSuchElementException e) {
-            return NO_SUCH;
-        }
-    }
-
-    private static int meanOf(Plain x, int what) {
-        try {
-            return x.mean(what);
-        } catch (NoSuchElementException e) {
-            return NO_SUCH;
         }
     }
 }

@@ -1,8 +1,6 @@
-import java.util.NoSuchElementException;
-
 /** Each promise of the document by hand-made cases: ordinary ones, its edges, and wrong inputs. */
 public final class PromiseTests {
-    private static final int THROWS = Integer.MIN_VALUE;
+    private static final int THROWS = TestKit.THROWS;
 
     private static final String FIVE = "point a;point b;point c;point d;point e;"
             + "link a b 5;link b c 8;link c a 6;link c d 7;link d e 4;link a e 3;"
@@ -49,38 +47,6 @@ public final class PromiseTests {
         TestKit.due(call, got, want);
     }
 
-    private static int point(HeavyPairs x, int p, int what) {
-        try {
-            return x.point(p, what);
-        } catch (NoSuchElementException e) {
-            return THROWS;
-        }
-    }
-
-    private static int slack(HeavyPairs x, int l) {
-        try {
-            return x.slack(l);
-        } catch (NoSuchElementException e) {
-            return THROWS;
-        }
-    }
-
-    private static int proofBy(HeavyPairs x) {
-        try {
-            return x.proofBy();
-        } catch (NoSuchElementException e) {
-            return THROWS;
-        }
-    }
-
-    private static int mean(HeavyPairs x, int what) {
-        try {
-            return x.mean(what);
-        } catch (NoSuchElementException e) {
-            return THROWS;
-        }
-    }
-
     // 1, 5, 18, 21, 23, 25, 26, 29, 35, 38, 42, 44: ahead of any
     private static void newObject() {
         HeavyPairs x = new HeavyPairs();
@@ -98,7 +64,7 @@ public final class PromiseTests {
         due("22 shrink", x.shrink(), 1);
         due("23 undo", x.undo(), -1);
         due("25 proofAt", x.proofAt(), -1);
-        due("26 proofBy", proofBy(x), THROWS);
+        due("26 proofBy", TestKit.proofBy(x), THROWS);
         due("29 bestOf", x.bestOf(0), -1);
         due("35 ask", x.ask(), -1);
         due("38 byteAt", x.byteAt(0), -1);
@@ -112,7 +78,7 @@ public final class PromiseTests {
         due("31 heavy 0", x.heavy(0), 0);
         due("32 ways 0", x.ways(0), 1);
         due("33 gain", x.gain(), 0);
-        due("36 mean", mean(x, 0), THROWS);
+        due("36 mean", TestKit.mean(x, 0), THROWS);
         due("39 drawn", x.drawn(60, 5), 0);
         due("23 undo behind nothing", x.undo(), -1);
     }
@@ -182,23 +148,23 @@ public final class PromiseTests {
     // 6
     private static void points() {
         HeavyPairs x = TestKit.of(FIVE);
-        due("6 partner", point(x, 1, 0), 2);
-        due("6 partner", point(x, 2, 0), 1);
-        due("6 lone", point(x, 0, 0), -1);
-        due("6 price", point(x, 0, 1), 6);
-        due("6 price without", point(x, 4, 1), 0);
-        due("6 linked", point(x, 0, 2), 0b10110);
-        due("6 linked", point(x, 2, 2), 0b01011);
-        due("6 tight", point(x, 0, 3), 0b10000);
-        due("6 tight", point(x, 4, 3), 0b00001);
-        due("6 tight", point(x, 1, 3), 0);
-        due("6 sets", point(x, 0, 4), 0b11);
-        due("6 sets", point(x, 3, 4), 0b10);
-        due("6 no such point", point(x, 5, 0), THROWS);
-        due("6 no such point", point(x, -1, 0), THROWS);
-        due("6 no such point", point(x, Integer.MAX_VALUE, 0), THROWS);
-        due("6 no such what", point(x, 0, 5), THROWS);
-        due("6 no such what", point(x, 0, -1), THROWS);
+        due("6 partner", TestKit.point(x, 1, 0), 2);
+        due("6 partner", TestKit.point(x, 2, 0), 1);
+        due("6 lone", TestKit.point(x, 0, 0), -1);
+        due("6 price", TestKit.point(x, 0, 1), 6);
+        due("6 price without", TestKit.point(x, 4, 1), 0);
+        due("6 linked", TestKit.point(x, 0, 2), 0b10110);
+        due("6 linked", TestKit.point(x, 2, 2), 0b01011);
+        due("6 tight", TestKit.point(x, 0, 3), 0b10000);
+        due("6 tight", TestKit.point(x, 4, 3), 0b00001);
+        due("6 tight", TestKit.point(x, 1, 3), 0);
+        due("6 sets", TestKit.point(x, 0, 4), 0b11);
+        due("6 sets", TestKit.point(x, 3, 4), 0b10);
+        due("6 no such point", TestKit.point(x, 5, 0), THROWS);
+        due("6 no such point", TestKit.point(x, -1, 0), THROWS);
+        due("6 no such point", TestKit.point(x, Integer.MAX_VALUE, 0), THROWS);
+        due("6 no such what", TestKit.point(x, 0, 5), THROWS);
+        due("6 no such what", TestKit.point(x, 0, -1), THROWS);
     }
 
     // 7, 8, 9
@@ -215,12 +181,12 @@ public final class PromiseTests {
         due("7 no such link", x.link(-1, 0), -1);
         due("7 no such what", x.link(0, 5), -1);
         due("7 no such what", x.link(0, -1), -1);
-        due("8 slack", slack(x, 0), -2);
-        due("8 slack", slack(x, 1), -14);
-        due("8 slack", slack(x, 3), -14);
-        due("8 slack", slack(x, 5), 0);
-        due("8 no such", slack(x, 6), THROWS);
-        due("8 no such", slack(x, -1), THROWS);
+        due("8 slack", TestKit.slack(x, 0), -2);
+        due("8 slack", TestKit.slack(x, 1), -14);
+        due("8 slack", TestKit.slack(x, 3), -14);
+        due("8 slack", TestKit.slack(x, 5), 0);
+        due("8 no such", TestKit.slack(x, 6), THROWS);
+        due("8 no such", TestKit.slack(x, -1), THROWS);
         due("9 members", x.odd(0, 0), 7);
         due("9 members", x.odd(1, 0), 31);
         due("9 price", x.odd(0, 1), 2);
@@ -232,8 +198,8 @@ public final class PromiseTests {
 
         // both sets count where they have both; fates follow weights
         x.crown(1, 3);
-        due("8 both sets", slack(x, 1), -11);
-        due("8 one set", slack(x, 4), -5);
+        due("8 both sets", TestKit.slack(x, 1), -11);
+        due("8 one set", TestKit.slack(x, 4), -5);
         x.weigh(0, 1, 6);
         due("7 fate all", x.link(0, 4), 2);
         due("7 fate all", x.link(3, 4), 2);
@@ -290,8 +256,8 @@ public final class PromiseTests {
         due("11 no such", x.pair(0, 5), -1);
         due("11 no such", x.pair(-1, 0), -1);
         due("11 it is", x.pair(4, 3), 0);
-        due("11 it is", point(x, 3, 0), 4);
-        due("11 it is", point(x, 4, 0), 3);
+        due("11 it is", TestKit.point(x, 3, 0), 4);
+        due("11 it is", TestKit.point(x, 4, 0), 3);
         due("12 part", x.part(2), 0);
         due("12 both are lone", x.now(2), 0b00111);
         due("12 lone", x.part(1), 1);
@@ -313,7 +279,7 @@ public final class PromiseTests {
     private static void pricing() {
         HeavyPairs x = TestKit.of(FIVE);
         due("14 price", x.price(1, 400), 0);
-        due("14 it is", point(x, 1, 1), 400);
+        due("14 it is", TestKit.point(x, 1, 1), 400);
         due("14 that is its price", x.price(1, 400), 1);
         due("14 above", x.price(1, 401), -1);
         due("14 below", x.price(1, -1), -1);
@@ -353,7 +319,7 @@ public final class PromiseTests {
         due("18 NONE leaves it", x.growAt(1), 4);
         due("19 turn", x.turn(), 0);
         due("19 three pairs", x.now(1), 3);
-        due("19 pairs turned", point(x, 2, 0), 3);
+        due("19 pairs turned", TestKit.point(x, 2, 0), 3);
         due("19 total", x.now(0), 12);
         due("10 paths turned", x.now(5), 1);
         due("19 none any more", x.turn(), 1);
@@ -398,7 +364,7 @@ public final class PromiseTests {
         due("17 through b and c", x.grow(0), 3);
         x.part(5);
         due("19 though e is lone now", x.turn(), 0);
-        due("19 a with b", point(x, 0, 0), 1);
+        due("19 a with b", TestKit.point(x, 0, 0), 1);
 
         // a path told is looked at by another network
         x = TestKit.of(ROW);
@@ -477,10 +443,10 @@ public final class PromiseTests {
         }
         for (int n = 7; n >= 0; n--) {
             due("23 undo", x.undo(), n);
-            due("23 price", point(x, 4, 1), n + 1);
+            due("23 price", TestKit.point(x, 4, 1), n + 1);
         }
         due("23 eight are kept", x.undo(), -1);
-        due("23 nothing undone", point(x, 4, 1), 1);
+        due("23 nothing undone", TestKit.point(x, 4, 1), 1);
         x.price(4, 1);
         x.pair(0, 3);
         x.pair(0, 5);
@@ -490,7 +456,7 @@ public final class PromiseTests {
         due("23 undo", x.undo(), 1);
         x.price(4, 7);
         due("23 undo behind a new deed", x.undo(), 1);
-        due("23 undo behind a new deed", point(x, 4, 1), 5);
+        due("23 undo behind a new deed", TestKit.point(x, 4, 1), 5);
     }
 
     private static void undoOfAllDeeds() {
@@ -508,15 +474,15 @@ public final class PromiseTests {
         due("23 weigh", x.link(0, 2), 5);
         due("28 best behind undo", x.best(), 12);
         due("23 part", x.undo(), 1);
-        due("23 part", point(x, 1, 0), 2);
+        due("23 part", TestKit.point(x, 1, 0), 2);
         due("23 pair", x.undo(), 0);
-        due("23 pair", point(x, 3, 0), -1);
+        due("23 pair", TestKit.point(x, 3, 0), -1);
 
         x.grow(0);
         x.turn();
         due("10 turned", x.now(5), 1);
         due("23 turn", x.undo(), 0);
-        due("23 turn", point(x, 0, 0), -1);
+        due("23 turn", TestKit.point(x, 0, 0), -1);
         due("23 turned no more", x.now(5), 0);
         x.crown(0, 0);
         x.open(0);
@@ -530,7 +496,7 @@ public final class PromiseTests {
         due("41 lived", TestKit.book(x, "pair d e;price a 7;part a;", 1), 2);
         due("23 a book is one", x.undo(), 0);
         due("23 a book is one", x.now(0), 8);
-        due("23 a book is one", point(x, 0, 1), 6);
+        due("23 a book is one", TestKit.point(x, 0, 1), 6);
         due("41 none lived", TestKit.book(x, "part a;", 1), 0);
         due("23 no line lived", x.undo(), -1);
         due("41 judged", TestKit.book(x, "pair d e;", 0), -1);
@@ -549,39 +515,39 @@ public final class PromiseTests {
         HeavyPairs x = TestKit.of(FIVE);
         due("24 below 0", x.proof(), 1);
         due("25 the first link", x.proofAt(), 0);
-        due("26 its slack", proofBy(x), -2);
+        due("26 its slack", TestKit.proofBy(x), -2);
         x.price(0, 8);
         due("25 as it was then", x.proofAt(), 0);
-        due("26 as it was then", proofBy(x), -2);
+        due("26 as it was then", TestKit.proofBy(x), -2);
         due("24 below 0", x.proof(), 1);
         due("25 the next link", x.proofAt(), 1);
-        due("26 its slack", proofBy(x), -14);
+        due("26 its slack", TestKit.proofBy(x), -14);
 
         x = TestKit.of("point a;point b;point c;point d;link a b 3;link c d 5;link b c 1;pair c d;pair a b;"
                 + "price a 3;price b 3;price c 6;price d 5;");
         due("24 not tight", x.proof(), 2);
         due("25 the first", x.proofAt(), 1);
-        due("26 slack", proofBy(x), 1);
-        x.price(c(), 5);
+        due("26 slack", TestKit.proofBy(x), 1);
+        x.price(2, 5);
         due("24 proven", x.proof(), 0);
         due("25 none", x.proofAt(), -1);
-        due("26 throws", proofBy(x), THROWS);
+        due("26 throws", TestKit.proofBy(x), THROWS);
         due("10 the bound is twice the total", x.now(4), 2 * x.now(0));
         x.part(0);
         due("24 lone and priced", x.proof(), 3);
         due("25 the first point", x.proofAt(), 0);
-        due("26 its price", proofBy(x), 3);
+        due("26 its price", TestKit.proofBy(x), 3);
         x.price(0, 0);
         x.price(1, 6);
         due("24 lone and priced", x.proof(), 3);
         due("25 the first point", x.proofAt(), 1);
-        due("26 its price", proofBy(x), 6);
+        due("26 its price", TestKit.proofBy(x), 6);
 
         // an odd set that is not full
         x = TestKit.of("point a;point b;point c;point d;link a b 2;link b c 2;link c a 2;odd 0 a b d;odd 4 a b c;");
         due("24 not full", x.proof(), 4);
         due("25 the odd set", x.proofAt(), 1);
-        due("26 its price", proofBy(x), 4);
+        due("26 its price", TestKit.proofBy(x), 4);
         x.pair(0, 1);
         due("24 full", x.proof(), 0);
         due("10 bound", x.now(4), 4);
@@ -589,10 +555,6 @@ public final class PromiseTests {
         x.weigh(1, 2, 3);
         due("24 the least kind", x.proof(), 1);
         due("25 the link", x.proofAt(), 1);
-    }
-
-    private static int c() {
-        return 2;
     }
 
     // 27
@@ -736,24 +698,24 @@ public final class PromiseTests {
     // 36
     private static void means() {
         HeavyPairs x = TestKit.of(FIVE);
-        due("36 above", mean(x, 0), 8);
-        due("36 below", mean(x, 1), 1);
+        due("36 above", TestKit.mean(x, 0), 8);
+        due("36 below", TestKit.mean(x, 1), 1);
         x.pair(3, 4);
-        due("36 above", mean(x, 0), 6);
-        due("36 below", mean(x, 1), 1);
+        due("36 above", TestKit.mean(x, 0), 6);
+        due("36 below", TestKit.mean(x, 1), 1);
         x.weigh(3, 4, 5);
-        due("36 above", mean(x, 0), 13);
-        due("36 below", mean(x, 1), 2);
-        due("36 no such", mean(x, 2), THROWS);
-        due("36 no such", mean(x, -1), THROWS);
+        due("36 above", TestKit.mean(x, 0), 13);
+        due("36 below", TestKit.mean(x, 1), 2);
+        due("36 no such", TestKit.mean(x, 2), THROWS);
+        due("36 no such", TestKit.mean(x, -1), THROWS);
         x.part(1);
         x.part(3);
-        due("36 no pair", mean(x, 0), THROWS);
-        due("36 no pair", mean(x, 1), THROWS);
+        due("36 no pair", TestKit.mean(x, 0), THROWS);
+        due("36 no pair", TestKit.mean(x, 1), THROWS);
         x = TestKit.of("point a;point b;point c;point d;point e;point f;point g;point h;"
                 + "link a b 1;link c d 2;link e f 3;link g h 4;pair a b;pair c d;pair e f;pair g h;");
-        due("36 least terms above", mean(x, 0), 5);
-        due("36 least terms below", mean(x, 1), 2);
+        due("36 least terms above", TestKit.mean(x, 0), 5);
+        due("36 least terms below", TestKit.mean(x, 1), 2);
     }
 
     // 37, 38
@@ -803,7 +765,7 @@ public final class PromiseTests {
         int done = y.drawn(60, 77);
         due("39 prices alone", done > 0, true);
         due("10 nothing paired", y.now(1), 0);
-        due("39 priced below 60", point(y, 0, 1) < 60, true);
+        due("39 priced below 60", TestKit.point(y, 0, 1) < 60, true);
 
         x = TestKit.of(FIVE);
         due("40 no such point", x.odds(5, 1, 1), -1);
@@ -815,7 +777,7 @@ public final class PromiseTests {
             for (int i = 0; i < 20; i++) {
                 HeavyPairs z = TestKit.of(FIVE);
                 z.drawn(12, from + i);
-                paired += point(z, 4, 0) != -1 ? 1 : 0;
+                paired += TestKit.point(z, 4, 0) != -1 ? 1 : 0;
             }
             due("40 as drawn", x.odds(4, 20, from), paired);
         }
@@ -851,7 +813,7 @@ public final class PromiseTests {
         due("42 total then", x.told(2), 12);
         due("42 bound then", x.told(3), 8);
         due("41 lived", x.now(0), 12);
-        due("41 not behind", point(x, 0, 1), 6);
+        due("41 not behind", TestKit.point(x, 0, 1), 6);
         due("41 a fault", TestKit.book(x, "part a;pair a z;", 1), -2 - 14);
         due("42 of the latest without a fault", x.told(0), 11);
         due("41 nothing lived", x.now(0), 12);
@@ -861,7 +823,7 @@ public final class PromiseTests {
         due("41 the tape stays", x.count(3), 7);
         due("42 told stays", x.told(0), 11);
         due("41 lived", x.book(1), -1);
-        due("41 parted", point(x, 4, 0), -1);
+        due("41 parted", TestKit.point(x, 4, 0), -1);
         due("41 no lines", x.book(0), -1);
         due("42 no lines", x.told(1), 0);
         due("42 no lines: total", x.told(2), 8);
@@ -984,7 +946,7 @@ public final class PromiseTests {
         due("46 nothing can be undone", x.undo(), -1);
         x.part(0);
         due("46 again", x.restore(0), true);
-        due("46 again", point(x, 0, 0), 4);
+        due("46 again", TestKit.point(x, 0, 0), 4);
         due("28 best by links as restored", x.best(), 54);
         x = TestKit.of(FIVE);
         x.image(0);

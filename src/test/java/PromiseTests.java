@@ -537,8 +537,11 @@ public final class PromiseTests {
         due("24 lone and priced", x.proof(), 3);
         due("25 the first point", x.proofAt(), 0);
         due("26 its price", TestKit.proofBy(x), 3);
-        x.price(0, 0);
+        x.price(0, 1);
         x.price(1, 6);
+        due("24 lone and priced 1", x.proof(), 3);
+        due("26 lone and priced 1", TestKit.proofBy(x), 1);
+        x.price(0, 0);
         due("24 lone and priced", x.proof(), 3);
         due("25 the first point", x.proofAt(), 1);
         due("26 its price", TestKit.proofBy(x), 6);
@@ -604,6 +607,21 @@ public final class PromiseTests {
         x.best();
         due("29 no such one then", x.bestOf(1), -1);
         due("30 none", x.next(), -1);
+
+        // each new NETWORK is looked at anew, however like it is to the one ahead of it
+        String[] texts = {"link a b 3;", "link a b 3;link b c 9;", "link a b 3;", "link a c 3;", "link b c 3;", "", "link b c 3;"};
+        int[] tops = {3, 9, 3, 3, 3, 0, 3};
+        int[] ofFirst = {1, -1, 1, 2, -1, -1, -1};
+        int[] ofThird = {-1, 1, -1, 0, 1, -1, 1};
+        for (int i = 0; i < texts.length; i++) {
+            TestKit.network(x, "point a;point b;point c;" + texts[i]);
+            due("28 anew " + texts[i], x.best(), tops[i]);
+            due("29 anew " + texts[i], x.bestOf(0), ofFirst[i]);
+            due("29 anew " + texts[i], x.bestOf(2), ofThird[i]);
+            due("7 fate anew " + texts[i], x.link(0, 4), i == 1 ? 0 : i == 5 ? -1 : 2);
+        }
+        TestKit.network(x, "point a;point b;point c;point d;link b c 3;");
+        due("34 one point more", TestKit.who(x, 3, 255), 1);
 
         // a lone point is behind all partners
         x = TestKit.of(RING);
@@ -734,6 +752,11 @@ public final class PromiseTests {
         x.price(2, 400);
         due("38 as it was then", x.byteAt(10), '1');
         due("37 length", x.tag(2), 13);
+        int[] prices = {0, 9, 10, 99, 100, 101, 399};
+        for (int n : prices) {
+            x.price(2, n);
+            due("37 digits of " + n, TestKit.tagText(x, 2).equals("z lone at " + n), true);
+        }
         due("37 longest", TestKit.tagText(TestKit.of("point abcdefg;point hijklmn;link abcdefg hijklmn 1;"
                 + "pair abcdefg hijklmn;price abcdefg 123;"), 0).equals("abcdefg with hijklmn at 123"), true);
     }

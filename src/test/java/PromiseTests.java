@@ -622,6 +622,11 @@ public final class PromiseTests {
         }
         TestKit.network(x, "point a;point b;point c;point d;link b c 3;");
         due("34 one point more", TestKit.who(x, 3, 255), 1);
+        x = new HeavyPairs();
+        x.best();
+        TestKit.network(x, "point a;");
+        due("34 a point, no links as ahead of it", TestKit.who(x, 0, 255), 1);
+        due("35 a point, no links as ahead of it", x.ask(), 0);
 
         // a lone point is behind all partners
         x = TestKit.of(RING);

@@ -2,7 +2,7 @@ import java.util.ArrayList;
 import java.util.List;
 import java.util.Random;
 
-/** Runs of 512 random calls on the class and on the plain second one, answer by answer. */
+/** Runs of up to 512 random calls on the class and on the plain second one, answer by answer. */
 public final class OracleTests {
     private static final String[] NAMES = {"a", "b", "c", "dee", "e", "ff", "gamma", "h", "indigoo", "jay"};
     private final Random random;
@@ -22,7 +22,8 @@ public final class OracleTests {
         long first = args.length > 1 ? Long.parseLong(args[1]) : 1;
         for (int run = 0; run < runs; run++) {
             OracleTests test = new OracleTests(first + run);
-            while (test.calls < 500 && !test.broken) {
+            // a step makes some 100 calls at most, an object is used for 512
+            while (test.calls < 410 && !test.broken) {
                 test.step();
             }
         }

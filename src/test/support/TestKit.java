@@ -87,6 +87,30 @@ final class TestKit {
         return bits;
     }
 
+    /** All that is so, as far as calls tell it; some 60 calls for a small NETWORK. */
+    static String state(HeavyPairs x) {
+        StringBuilder told = new StringBuilder();
+        for (int what = 0; what < 7; what++) {
+            told.append(x.now(what)).append(' ');
+        }
+        for (int p = 0; p < x.count(0); p++) {
+            told.append("point ").append(p);
+            for (int what = 0; what < 5; what++) {
+                told.append(' ').append(point(x, p, what));
+            }
+        }
+        for (int l = 0; l < x.count(1); l++) {
+            told.append(" link ").append(l);
+            for (int what = 0; what < 5; what++) {
+                told.append(' ').append(x.link(l, what));
+            }
+        }
+        for (int k = 0; k < x.count(2); k++) {
+            told.append(" odd ").append(k).append(' ').append(x.odd(k, 0)).append(' ').append(x.odd(k, 1));
+        }
+        return told.toString();
+    }
+
     static String tagText(HeavyPairs x, int p) {
         StringBuilder text = new StringBuilder();
         int length = x.tag(p);

@@ -23,9 +23,11 @@ public final class EdgeAnswerTests {
         bounds();
         bestTerms();
         otherTotals();
+        mostLinks();
         fates();
         roomTerms();
         gainRows();
+        gainRowsOfUnlike();
         gainEnds();
         whoTerms();
         askTerms();
@@ -147,6 +149,11 @@ public final class EdgeAnswerTests {
         }
     }
 
+    private static HeavyPairs another(HeavyPairs x, String text) {
+        TestKit.network(x, text);
+        return x;
+    }
+
     private static void bestTerms() {
         edge(ASKED, "BEST: the pairing of the greatest TOTAL (of LINKS as they are)");
         HeavyPairs x = TestKit.of(ABCD + "link a b 3;link b c 7;link c d 3;");
@@ -158,6 +165,17 @@ public final class EdgeAnswerTests {
         x.pair(0, 1);
         x.price(0, 400);
         partners(x, 7, -1, 2, 1, -1);
+
+        // networks that are nearly alike, one behind another
+        partners(another(x, ABCD + "link a b 9;link c d 4;"), 13, 1, 0, 3, 2);
+        partners(another(x, ABCD + "link a b 9;link b d 4;"), 9, 1, 0, -1, -1);
+        partners(another(x, ABCD + "link a b 9;link b c 4;"), 9, 1, 0, -1, -1);
+        partners(another(x, ABCD + "link a b 9;link c d 4;"), 13, 1, 0, 3, 2);
+        partners(another(x, ABCD + "link a b 9;link c b 4;"), 9, 1, 0, -1, -1);
+        partners(another(x, ABCD + "link c d 9;link a b 4;"), 13, 1, 0, 3, 2);
+        partners(another(x, ABCD + "link c d 9;"), 9, -1, -1, 3, 2);
+        partners(another(x, ABCD), 0, -1, -1, -1, -1);
+        partners(another(x, TEN + "link c d 9;"), 9, -1, -1, 3, 2, -1, -1, -1, -1, -1, -1);
 
         edge(ASKED, "of like ones the first: POINT by POINT the least partner");
         partners(TestKit.of(ABCD + "link a d 1;link b c 1;link a b 1;link c d 1;"), 2, 1, 0, 3, 2);
@@ -217,9 +235,42 @@ public final class EdgeAnswerTests {
         due("six pairs", x.ways(6), 0);
         x.pair(0, 5);
         x.weigh(0, 6, 1);
-        due("pairs and weights are no matter", x.ways(5), 120);
+        for (int k = 0; k <= 5; k++) {
+            due("pairs and weights are no matter: " + k, x.ways(k), ways[k]);
+        }
+        another(x, ABC);
+        due("the empty one of another network", x.ways(0), 1);
+        due("none of another network", x.ways(1), 0);
         due("of no links", TestKit.of(ABCD).ways(0), 1);
         due("of no links", TestKit.of(ABCD).ways(1), 0);
+    }
+
+    /** Thirty LINKS: the first four POINTS with one another and with the six behind them. */
+    private static void mostLinks() {
+        String text = TEN + TextKit.linksText(30);
+        int[] ways = {1, 30, 255, 660, 360, 0, 0};
+        HeavyPairs x = TestKit.of(text);
+        edge(ASKED, "WAYS of k: how many pairings of k pairs there are.");
+        for (int k = 0; k <= 6; k++) {
+            due("thirty links: " + k + " pairs", x.ways(k), ways[k]);
+        }
+        edge(ASKED, "HEAVY of k: the greatest TOTAL of just k pairs.");
+        for (int k = 0; k <= 6; k++) {
+            due("thirty links: " + k + " pairs", x.heavy(k), k <= 4 ? k : -1);
+        }
+        edge(ASKED, "BEST: the pairing of the greatest TOTAL (of LINKS as they are)");
+        partners(x, 4, 4, 5, 6, 7, 0, 1, 2, 3, -1, -1);
+        edge(ASKED, "NEXT: the greatest TOTAL below that.");
+        due("thirty links", x.next(), 3);
+        edge(ASKED, "FATE of a LINK: 0 it is in no BEST pairing (of the greatest TOTAL), 1 in some, 2 in all.");
+        for (int l = 0; l < 30; l++) {
+            due("link " + l, x.link(l, 4), x.link(l, 1) < 4 ? 0 : 1);
+        }
+        edge(ASKED, "how many BEST pairings have all of this.");
+        due("of 360, a with e", TestKit.who(x, 0, 4), 60);
+        due("of 360, j is lone", TestKit.who(x, 9, 255), 120);
+        edge(ASKED, "GAIN: by how much the TOTAL grows at most by one stroke");
+        due("of no pair", x.gain(), 1);
     }
 
     private static void fates() {
@@ -317,6 +368,43 @@ public final class EdgeAnswerTests {
         due("three are none by turns", TestKit.of(ABC + "link a b 5;link b c 4;link c a 4;pair a b;").gain(), 0);
     }
 
+    private static void gains(String text, int points, int gain) {
+        TextKit.inAllOrders(points, text, (x, numbers) ->
+                due(text + " in the order " + java.util.Arrays.toString(numbers), x.gain(), gain));
+    }
+
+    /** Whichever POINT comes first, none is gone through twice. */
+    private static void gainRowsOfUnlike() {
+        edge(ASKED, "along a row of unlike POINTS LINKED each to the next one");
+        // round the ring of four and on from it there would be more
+        gains("link a b 1;link b c 5;link c d 1;link d a 5;link b e 5;pair a b;pair c d;", 5, 8);
+        // once round the ring of four gains 2, twice would gain 4
+        gains("link a b 4;link b c 5;link c d 4;link d a 5;pair a b;pair c d;", 4, 2);
+        // in and out of a ring of three by the same link
+        gains("link a b 9;link b c 1;link c d 9;link d b 1;pair c d;", 4, 9);
+        gains("link a b 2;link b c 9;link c d 1;link d e 9;link e c 1;pair b c;pair d e;", 5, 0);
+        // a row through all six, which a shorter one ends at each of its pairs
+        gains("link a b 6;link b c 5;link c d 7;link d e 5;link e f 3;pair b c;pair d e;", 6, 6);
+        gains("link a b 5;link b c 9;link c d 5;link a c 8;link b d 8;pair b c;", 4, 7);
+
+        edge(ASKED, "(or, closed, of 4 LINKS and more, the last to the first, too)");
+        gains("link a b 3;link b c 4;link c d 3;link d a 4;link a c 9;pair a b;pair c d;", 4, 3);
+        gains("link a b 3;link b c 4;link c d 3;link d e 4;link e f 3;link f a 4;pair a b;pair c d;pair e f;", 6, 3);
+
+        edge(ASKED, "an end at a LINK that was none of a pair must be lone");
+        gains("link a b 1;link b c 9;link c d 5;link d e 1;pair a b;pair c d;", 5, 4);
+
+        edge(ASKED, "(one at a LINK of a pair need not)");
+        gains("link a b 3;link b c 9;link c d 4;pair a b;pair c d;", 4, 2);
+        gains("link a b 3;link b c 9;pair a b;", 3, 6);
+
+        edge(ASKED, "0, if none is above.");
+        gains("link a b 3;link b c 5;link c d 3;link d e 2;pair a b;pair c d;", 5, 1);
+        gains("link a b 3;link b c 4;link c d 3;link d e 2;pair a b;pair c d;", 5, 0);
+        gains("link a b 3;link b c 5;link c d 3;link d e 2;link a e 2;pair a b;pair c d;", 5, 1);
+        gains("link a b 3;link b c 5;link c d 5;link d e 2;link a e 2;pair a b;pair c d;", 5, 0);
+    }
+
     private static void gainEnds() {
         edge(ASKED, "LINKS by turns of a pair and not, those of pairs are none then, those that were not are");
         // b c and c d can't be together
@@ -354,6 +442,14 @@ public final class EdgeAnswerTests {
         due("one is", TestKit.who(TestKit.of(RING), 1, 255), 1);
         due("both can't be", TestKit.who(TestKit.of(RING), 1, 255, 0, 255), 0);
         due("one without links", TestKit.who(TestKit.of(RING + "point d;"), 3, 255), 3);
+
+        due("ten that are lone", TestKit.who(TestKit.of(TEN), 0, 255, 9, 255), 1);
+        for (int paired = 0; paired < 9; paired++) {
+            HeavyPairs y = TestKit.of(TEN + "link " + (char) ('a' + paired) + " j 5;");
+            due("eight that are lone", TestKit.who(y, paired, 9), 1);
+            due("eight that are lone", TestKit.who(y, (paired + 1) % 9, 255), 1);
+            due("it is in all", y.link(0, 4), 2);
+        }
 
         edge(ASKED, "1 to 6 of them)");
         due("none", TestKit.who(x), -1);
@@ -516,6 +612,8 @@ public final class EdgeAnswerTests {
         x = drawnOnce(FIVE, 1, 7, 2, 6, 0, 30, 0);
         due("the first link", x.link(0, 2), 1);
         drawnOnce(FIVE, 0, 7, 2, 6, 1, 30, 7);
+        x = drawnOnce("point a;point b;link b a 40;", 1, 7, 2, 1, 0, 30, 29);
+        due("the only link", x.link(0, 2), 30);
         x = TestKit.of(ABC);
         due("without links", x.drawn(2, seedOf(0, 7, 2, 7, 3, 3, 1, 60, 41)), 1);
         due("no more draws", TestKit.point(x, 1, 1), 41);
@@ -543,6 +641,8 @@ public final class EdgeAnswerTests {
         x = drawnOnce(FIVE, 1, 7, 6, 2, 0, 20, 0);
         due("the first set", x.odd(0, 1), 0);
         drawnOnce(FIVE, 0, 7, 6, 2, 0, 20, 2);
+        x = drawnOnce(ABC + "odd 20 c b a;", 1, 7, 6, 1, 0, 20, 19);
+        due("the only set", x.odd(0, 1), 19);
         x = TestKit.of(ABC);
         due("without sets", x.drawn(2, seedOf(0, 7, 6, 7, 3, 3, 2, 60, 17)), 1);
         due("no more draws", TestKit.point(x, 2, 1), 17);
@@ -645,11 +745,28 @@ public final class EdgeAnswerTests {
         x = TestKit.of(ABCD + "price b 2;price c 1;");
         x.proof();
         due("b", x.proofAt(), 1);
+        x.price(0, 1);
+        x.proof();
+        due("a", x.proofAt(), 0);
+        for (int p = 0; p < 10; p++) {
+            x = TestKit.of(TEN);
+            x.price(p, 3);
+            x.price(9, 4);
+            due("3 for " + p, x.proof(), 3);
+            due("at " + p, x.proofAt(), p);
+        }
 
         edge(25, "the first ODD set (4)");
         x = TestKit.of(ABCD + "odd 0 a b c;odd 2 a b d;odd 1 a c d;");
         x.proof();
         due("the second", x.proofAt(), 1);
+        for (int k = 0; k < 6; k++) {
+            HeavyPairs y = TestKit.of(TEN + "odd 0 a b c;odd 0 a b d;odd 0 a b e;odd 0 a b f;odd 0 a b g;odd 0 a b h;");
+            y.crown(k, 9);
+            y.crown(5, 8);
+            due("4 for " + k, y.proof(), 4);
+            due("at " + k, y.proofAt(), k);
+        }
 
         edge(25, "NONE: it was 0, or ahead of any.");
         due("ahead of any", new HeavyPairs().proofAt(), -1);

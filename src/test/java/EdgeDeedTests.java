@@ -41,6 +41,8 @@ public final class EdgeDeedTests {
         flower();
         shrink();
         undoOfDeeds();
+        undoBehindDeeds();
+        undoKeptBehindRefused();
         undoOfMany();
         undoKept();
         EdgeKit.finish("EdgeDeedTests");
@@ -253,6 +255,20 @@ public final class EdgeDeedTests {
         TestKit.network(x, TextKit.pointsText(5) + "link a b 4;link b c 9;link c d 4;link d e 9;pair b c;pair e d;");
         due("f is no point", x.turn(), 1);
         due("nothing was turned", x.now(5), 0);
+        // one end alone is paired, with a point that is not in the path
+        String ends = ABCDEF + "link a b 4;link b c 9;link c d 4;pair b c;link a e 1;link d f 1;link e f 1;pair e f;";
+        for (int end = 0; end <= 3; end += 3) {
+            x = TestKit.of(ends);
+            x.grow(0);
+            due("grown from a to d", x.growAt(3), 3);
+            x.part(4);
+            x.pair(end, end == 0 ? 4 : 5);
+            String ahead = TestKit.state(x);
+            due("an end is paired: " + end, x.turn(), 1);
+            due("all stays: " + end, TestKit.state(x).equals(ahead), true);
+            x.part(end);
+            due("lone again: " + end, x.turn(), 0);
+        }
         // pairs that are others: b with d, c with e
         TestKit.network(x, ABCDEF + "link a b 4;link b c 9;link c d 4;link d e 9;link e f 4;link b d 1;link c e 1;pair b d;pair c e;");
         due("other pairs", x.turn(), 1);
@@ -695,6 +711,16 @@ public final class EdgeDeedTests {
         due("of a pair", x.weigh(2, 1, 50), 0);
         due("total", x.now(0), 50);
 
+        // linked in another network: not any more, or by another number
+        HeavyPairs y = TestKit.of(ABCD + "link a b 5;link b c 6;link c d 7;");
+        TestKit.network(y, ABCD + "link c d 8;link a c 9;");
+        due("linked in the one ahead", y.weigh(0, 1, 5), 1);
+        due("linked in the one ahead", y.weigh(2, 1, 50), 1);
+        due("nothing was weighed", y.link(0, 2) * 100 + y.link(1, 2), 809);
+        due("the first now", y.weigh(3, 2, 1), 0);
+        due("the first now", y.link(0, 2), 1);
+        due("that is it", y.weigh(0, 2, 9), 2);
+
         edge(13, "NONE: alike, no such ones.");
         for (int bad : new int[] {-1, 5, 10, LEAST, MOST}) {
             due("first " + bad, x.weigh(bad, 0, 5), -1);
@@ -941,6 +967,89 @@ public final class EdgeDeedTests {
         due("the latest that was done", y.undo(), 0);
         due("part() is undone", TestKit.state(y).equals(ahead), true);
         due("nothing else was done", y.undo(), -1);
+    }
+
+    /** So many deeds ahead of the one to undo that every place where they are kept was used. */
+    private static HeavyPairs behindDeeds(String text) {
+        HeavyPairs x = TestKit.of(text);
+        for (int n = 1; n <= 11; n++) {
+            x.price(3, n);
+        }
+        return x;
+    }
+
+    private static void undoneAlone(String deed, HeavyPairs x, int answer, String ahead) {
+        due(deed + " is done", answer, 0);
+        due(deed + " changes something", TestKit.state(x).equals(ahead), false);
+        due(deed + " is undone", x.undo(), 7);
+        due(deed + " alone is undone", TestKit.state(x).equals(ahead), true);
+        due("the deed ahead of " + deed, x.undo(), 6);
+        due("the deed ahead of " + deed, TestKit.point(x, 3, 1), 10);
+    }
+
+    private static void undoBehindDeeds() {
+        String text = ABCD + "link a b 3;link b c 4;link c a 5;link c d 6;pair b c;odd 2 a b d;odd 0 b c d;";
+        edge(23, "The latest of pair(), part(), weigh(), price(), crown(), open(), turn(), shrink() that was done");
+        HeavyPairs x = behindDeeds(ABCD + "link a b 3;");
+        undoneAlone("pair", x, x.pair(0, 1), TestKit.state(behindDeeds(ABCD + "link a b 3;")));
+        String ahead = TestKit.state(behindDeeds(text));
+        x = behindDeeds(text);
+        undoneAlone("part", x, x.part(1), ahead);
+        x = behindDeeds(text);
+        undoneAlone("weigh", x, x.weigh(0, 1, 99), ahead);
+        x = behindDeeds(text);
+        undoneAlone("price", x, x.price(0, 9), ahead);
+        x = behindDeeds(text);
+        undoneAlone("crown", x, x.crown(0, 9), ahead);
+        x = behindDeeds(text);
+        undoneAlone("open", x, x.open(1), ahead);
+        x = behindDeeds(text);
+        x.grow(0);
+        undoneAlone("turn", x, x.turn(), ahead);
+        x = behindDeeds(text);
+        x.flower(0);
+        undoneAlone("shrink", x, x.shrink(), ahead);
+        x = behindDeeds(text);
+        undoneAlone("drawn", x, x.drawn(60, 4) > 0 ? 0 : -1, ahead);
+        x = behindDeeds(text);
+        undoneAlone("book", x, TestKit.book(x, "part b;price a 7;crown 0 0;", 1) == -1 ? 0 : -1, ahead);
+    }
+
+    /** A refused deed takes no place from those that are kept, when all places are full. */
+    private static void undoKeptBehindRefused() {
+        edge(23, "how many more can be (8 at most are kept)");
+        for (int kind = 0; kind <= 10; kind++) {
+            HeavyPairs x = TestKit.of(SMALL);
+            for (int n = 1; n <= 8; n++) {
+                x.price(4, n);
+            }
+            refuse(x, kind);
+            for (int n = 7; n >= 0; n--) {
+                due("refused " + kind + ": undo", x.undo(), n);
+                due("refused " + kind + ": price", TestKit.point(x, 4, 1), n);
+            }
+            due("refused " + kind + ": no more", x.undo(), -1);
+            due("refused " + kind + ": as told", TestKit.state(x).equals(TestKit.state(TestKit.of(SMALL))), true);
+        }
+    }
+
+    private static void refuse(HeavyPairs x, int kind) {
+        int[] answers = {x.pair(0, 1), x.part(0), x.weigh(0, 1, 3), x.price(0, 5), x.crown(0, 2), x.open(0), x.turn(), x.shrink()};
+        int[] due = {2, 1, 2, 1, 1, 1, 1, 1};
+        if (kind < 8) {
+            due("refused " + kind, answers[kind], due[kind]);
+        } else if (kind == 8) {
+            due("a book that is wrong at once", TestKit.book(x, "part a;", 1), 0);
+        } else if (kind == 9) {
+            due("a book that is judged", TestKit.book(x, "part b;price a 1;", 0), -1);
+        } else {
+            int seed = 0;
+            while (TestKit.of(SMALL).drawn(1, seed) != 0) {
+                seed++;
+            }
+            due("drawn, nothing done", x.drawn(1, seed), 0);
+            x.odds(0, 20, 5);
+        }
     }
 
     private static void undoOfMany() {

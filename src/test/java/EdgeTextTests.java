@@ -23,6 +23,9 @@ public final class EdgeTextTests {
         sentenceMosts();
         firstFault();
         faultsOfKindOne();
+        whatCanComeInNetworks();
+        whatCanComeInBooks();
+        whatCanComeInSentences();
         faultsOfKindThree();
         faultsOfKindFour();
         newObject();
@@ -692,6 +695,87 @@ public final class EdgeTextTests {
         TextKit.faultyBook(2, "weigh a b ^100;");
         TextKit.faultyBook(2, "crown ^6 0;");
         TextKit.faultySentence(2, "lone or in ^7");
+    }
+
+    private static void whatCanComeInNetworks() {
+        edge(TEXTS, "1 no TOKEN, or one that can't come (at it");
+        String[] firsts = {"point", "link", "pair", "price", "odd", "end"};
+        String linked = ABC + "link a b 1;";
+        TextKit.onlyThese('n', "", firsts);
+        TextKit.onlyThese('n', ABC, firsts);
+        TextKit.onlyThese('n', ABC + "point", "a");
+        TextKit.onlyThese('n', ABC + "point d", ";");
+        TextKit.onlyThese('n', ABC + "link", "a");
+        TextKit.onlyThese('n', ABC + "link b", "a");
+        TextKit.onlyThese('n', ABC + "link b a", "5");
+        TextKit.onlyThese('n', ABC + "link b a 5", ";");
+        TextKit.onlyThese('n', linked + "pair", "a");
+        TextKit.onlyThese('n', linked + "pair b", "a");
+        TextKit.onlyThese('n', linked + "pair b a", ";");
+        TextKit.onlyThese('n', ABC + "price", "a");
+        TextKit.onlyThese('n', ABC + "price a", "5");
+        TextKit.onlyThese('n', ABC + "price a 5", ";");
+        TextKit.onlyThese('n', TEN + "odd", "5");
+        TextKit.onlyThese('n', TEN + "odd 5", "a");
+        TextKit.onlyThese('n', TEN + "odd 5 b", "a");
+        TextKit.onlyThese('n', TEN + "odd 5 b c", "a");
+        TextKit.onlyThese('n', TEN + "odd 5 b c d", "a", ";");
+        TextKit.onlyThese('n', TEN + "odd 5 b c d e", "a");
+        TextKit.onlyThese('n', TEN + "odd 5 b c d e f", "a", ";");
+        TextKit.onlyThese('n', TEN + "odd 5 b c d e f g", "a");
+        TextKit.onlyThese('n', TEN + "odd 5 b c d e f g h", "a", ";");
+        TextKit.onlyThese('n', TEN + "odd 5 b c d e f g h i", "a");
+        TextKit.onlyThese('n', TEN + "odd 5 b c d e f g h i j", ";");
+    }
+
+    private static void whatCanComeInBooks() {
+        edge(TEXTS, "1 no TOKEN, or one that can't come (at it");
+        String[] firsts = {"pair", "part", "weigh", "price", "crown", "open", "grow", "end"};
+        TextKit.onlyThese('b', "", firsts);
+        TextKit.onlyThese('b', "open 0;", firsts);
+        TextKit.onlyThese('b', "pair", "a");
+        TextKit.onlyThese('b', "pair b", "a");
+        TextKit.onlyThese('b', "pair b a", ";");
+        TextKit.onlyThese('b', "part", "a");
+        TextKit.onlyThese('b', "part b", ";");
+        TextKit.onlyThese('b', "weigh", "a");
+        TextKit.onlyThese('b', "weigh b", "a");
+        TextKit.onlyThese('b', "weigh b a", "5");
+        TextKit.onlyThese('b', "weigh b a 5", ";");
+        TextKit.onlyThese('b', "price", "a");
+        TextKit.onlyThese('b', "price a", "5");
+        TextKit.onlyThese('b', "price a 5", ";");
+        TextKit.onlyThese('b', "crown", "5");
+        TextKit.onlyThese('b', "crown 5", "5");
+        TextKit.onlyThese('b', "crown 5 5", ";");
+        TextKit.onlyThese('b', "open", "5");
+        TextKit.onlyThese('b', "open 5", ";");
+        TextKit.onlyThese('b', "grow", "a");
+        TextKit.onlyThese('b', "grow a", ";");
+    }
+
+    private static void whatCanComeInSentences() {
+        edge(TEXTS, "1 no TOKEN, or one that can't come (at it");
+        String[] ones = {"not", "(", "lone", "tight", "with", "linked", "in", "priced", "links", "weight", "number"};
+        for (String ahead : new String[] {"", "not", "not not", "(", "((", "lone and", "lone or", "(lone or", "not(tight and"}) {
+            TextKit.onlyThese('s', ahead, ones);
+        }
+        for (String whole : new String[] {"lone", "tight", "with a", "linked a", "in 5", "priced<5", "links=5", "weight>5", "number<5"}) {
+            TextKit.onlyThese('s', whole, "and", "or", "end");
+            TextKit.onlyThese('s', "not " + whole, "and", "or", "end");
+            TextKit.onlyThese('s', "(" + whole + ")", "and", "or", "end");
+            TextKit.onlyThese('s', "(" + whole, "and", "or", ")");
+            TextKit.onlyThese('s', "lone and(tight or " + whole, "and", "or", ")");
+        }
+        TextKit.onlyThese('s', "with", "a");
+        TextKit.onlyThese('s', "linked", "a");
+        TextKit.onlyThese('s', "in", "5");
+        for (String measure : new String[] {"priced", "links", "weight", "number"}) {
+            TextKit.onlyThese('s', measure, "<", "=", ">");
+            TextKit.onlyThese('s', measure + "<", "5");
+            TextKit.onlyThese('s', measure + "=", "5");
+            TextKit.onlyThese('s', measure + ">", "5");
+        }
     }
 
     private static void faultsOfKindThree() {

@@ -1,3 +1,6 @@
+import java.util.ArrayList;
+import java.util.List;
+
 /** Texts with and without a FAULT; in a marked text a ^ stands ahead of the FAULT's place. */
 final class TextKit {
     static final String ABC = "point a;point b;point c;";
@@ -49,6 +52,73 @@ final class TextKit {
         HeavyPairs x = TestKit.of(NET);
         EdgeKit.due("sentence " + text, TestKit.sentence(x, text), ones);
         EdgeKit.due("its fault " + text, x.fault(), 0);
+    }
+
+    /**
+     * Behind a text none but these TOKENS can come ("end": the text can end there); of the others each is a FAULT 1.
+     * Told words and signs stand for themselves, a for each NAME, 5 for each NUMBER.
+     */
+    static void onlyThese(char sort, String ahead, String... can) {
+        List<String> fine = List.of(can);
+        List<String> all = new ArrayList<>(List.of(";", "<", "=", ">", "(", ")", "5", "a"));
+        all.addAll(Plain.TOLD);
+        for (String token : all) {
+            if (!fine.contains(token)) {
+                faulty(sort, 1, ahead + " ^" + token);
+                faulty(sort, 1, ahead + "\n^" + token + " ;");
+            }
+        }
+        if (!fine.contains("end")) {
+            faulty(sort, 1, ahead + "^");
+            faulty(sort, 1, ahead + " ^");
+        }
+    }
+
+    private static void faulty(char sort, int kind, String marked) {
+        switch (sort) {
+            case 'n':
+                faultyNetwork(kind, marked);
+                break;
+            case 'b':
+                faultyBook(kind, marked);
+                break;
+            default:
+                faultySentence(kind, marked);
+                break;
+        }
+    }
+
+    /** What must be due whichever numbers the POINTS have. */
+    interface Fits {
+        void check(HeavyPairs x, int[] numbers);
+    }
+
+    /** Tells points a, b, c .. in all orders ahead of a text, each to a new object; numbers[0] is the number of a then. */
+    static void inAllOrders(int points, String text, Fits fits) {
+        int[] numbers = new int[points];
+        tellOrders(numbers, 0, 0, text, fits);
+    }
+
+    private static void tellOrders(int[] numbers, int place, int told, String text, Fits fits) {
+        int points = numbers.length;
+        if (place < points) {
+            for (int p = 0; p < points; p++) {
+                if ((told >> p & 1) == 0) {
+                    numbers[p] = place;
+                    tellOrders(numbers, place + 1, told | 1 << p, text, fits);
+                }
+            }
+            return;
+        }
+        char[] names = new char[points];
+        for (int p = 0; p < points; p++) {
+            names[numbers[p]] = (char) ('a' + p);
+        }
+        StringBuilder whole = new StringBuilder();
+        for (char name : names) {
+            whole.append("point ").append(name).append(';');
+        }
+        fits.check(TestKit.of(whole + text), numbers.clone());
     }
 
     /** POINTS named by letters from a on. */

@@ -177,6 +177,17 @@ public final class EdgeAnswerTests {
         partners(another(x, ABCD), 0, -1, -1, -1, -1);
         partners(another(x, TEN + "link c d 9;"), 9, -1, -1, 3, 2, -1, -1, -1, -1, -1, -1);
 
+        // one LINK alone, of which one thing is another each time
+        partners(another(x, ABC + "link a c 3;"), 3, 2, -1, 0);
+        partners(another(x, ABC + "link b c 3;"), 3, -1, 2, 1);
+        partners(another(x, ABC + "link b a 3;"), 3, 1, 0, -1);
+        partners(another(x, ABC + "link b a 4;"), 4, 1, 0, -1);
+        x.weigh(0, 1, 24);
+        partners(x, 24, 1, 0, -1);
+        due("next of it", x.next(), 0);
+        x.undo();
+        partners(x, 4, 1, 0, -1);
+
         edge(ASKED, "of like ones the first: POINT by POINT the least partner");
         partners(TestKit.of(ABCD + "link a d 1;link b c 1;link a b 1;link c d 1;"), 2, 1, 0, 3, 2);
         // a with c in all; b with e, d with f or b with f, d with e
@@ -942,6 +953,15 @@ public final class EdgeAnswerTests {
         due("NONE leaves it", x.ask(), 1);
         TestKit.who(x, 1, 2);
         due("the latest", x.ask(), 0);
+
+        // the LINKS are as ahead of it, the POINTS are not
+        x = new HeavyPairs();
+        due("no points", x.best(), 0);
+        TestKit.network(x, "point a;");
+        due("a point", TestKit.who(x, 0, 255), 1);
+        due("it is the one to ask", x.ask(), 0);
+        x = TestKit.of("point d;" + RING);
+        TestKit.who(x, 1, 2);
 
         edge(35, "(by LINKS as they were then)");
         TestKit.who(x, 0, 255);

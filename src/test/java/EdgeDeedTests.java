@@ -92,6 +92,24 @@ public final class EdgeDeedTests {
                 + "odd 400 a b f;odd 400 a b g;odd 400 a b h;");
         due("the greatest", TestKit.slack(x, 0), 8 * 400 - 2);
 
+        // of ODD sets that are: not of one that moved, was undone, or was told ahead
+        x = TestKit.of(ABCD + "link a b 10;odd 0 a b d;odd 7 a b c;");
+        due("7 less 20", TestKit.slack(x, 0), -13);
+        x.open(0);
+        due("once, behind another that was opened", TestKit.slack(x, 0), -13);
+        x.crown(0, 9);
+        due("9 less 20", TestKit.slack(x, 0), -11);
+        TestKit.network(x, ABCD + "link a b 10;");
+        due("none is told", TestKit.slack(x, 0), -20);
+        x = TestKit.of(ABCD + "link a b 10;link b c 1;link c a 1;pair b c;");
+        x.flower(0);
+        x.shrink();
+        x.crown(0, 5);
+        due("5 less 20", TestKit.slack(x, 0), -15);
+        x.undo();
+        x.undo();
+        due("undone", TestKit.slack(x, 0), -20);
+
         edge(DEEDS, "It is TIGHT, if that is 0.");
         x = TestKit.of(ABCD + "link a b 2;link b c 2;link c d 2;price a 1;price b 2;price c 2;price d 3;");
         due("at -1, 0 and 1", x.now(3), 0b010);

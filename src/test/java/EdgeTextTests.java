@@ -416,6 +416,10 @@ public final class EdgeTextTests {
         TextKit.goodBook(0, "crown 5 0;");
         TextKit.faultyBook(2, "crown ^6 0;");
         TextKit.faultyBook(2, "crown ^6 401;");
+        // what is no K is no N either, though the LINE could end behind an N
+        for (String number : new String[] {"6", "69", "400", "401", "999"}) {
+            TextKit.faultyBook(2, "crown ^" + number + ";");
+        }
         TextKit.faultyBook(2, "crown 0 ^401;");
         TextKit.faultyBook(2, "crown 5 ^401;");
         TextKit.faultyBook(1, "crown ^a 1;");

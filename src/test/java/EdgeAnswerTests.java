@@ -284,6 +284,14 @@ public final class EdgeAnswerTests {
         due("of no pair", x.gain(), 1);
     }
 
+    private static void fatesOf(String text, int... fates) {
+        TextKit.inAllOrders(4, text, (x, numbers) -> {
+            for (int l = 0; l < fates.length; l++) {
+                due(text + " link " + l + " in the order " + java.util.Arrays.toString(numbers), x.link(l, 4), fates[l]);
+            }
+        });
+    }
+
     private static void fates() {
         edge(ASKED, "FATE of a LINK: 0 it is in no BEST pairing (of the greatest TOTAL), 1 in some, 2 in all.");
         HeavyPairs x = TestKit.of(ABCDEF + "link a b 3;link b c 3;link c a 3;link e f 1;link d f 1;link d e 3;link c d 1;");
@@ -299,6 +307,12 @@ public final class EdgeAnswerTests {
             due("link then " + l, x.link(l, 4), then[l]);
         }
         due("the only one", TestKit.of(ABCD + "link a b 1;").link(0, 4), 2);
+        // whichever numbers the POINTS have, and whichever is told first
+        fatesOf("link b a 1;link a c 5;link c d 2;", 0, 2, 0);
+        fatesOf("link a b 1;link c a 5;link d c 2;", 0, 2, 0);
+        fatesOf("link b a 3;link a c 5;link c d 2;", 1, 1, 1);
+        fatesOf("link a b 3;link c a 5;link d c 2;", 1, 1, 1);
+        fatesOf("link a b 3;link c a 5;link d c 3;", 2, 0, 2);
         x = TestKit.of(ABCD + "link a b 2;link b c 2;pair b c;");
         due("whatever is paired", x.link(0, 4) * 10 + x.link(1, 4), 11);
     }

@@ -630,6 +630,31 @@ public final class EdgeTextTests {
         TextKit.faultySentence(3, "with ^e or in 9 or");
         TextKit.faultySentence(2, "in ^9 or with e or");
 
+        // what is due behind it can't make it good, nor a LINE of fewer TOKENS
+        TextKit.faultyNetwork(3, ABC + "link ^e 5;");
+        TextKit.faultyNetwork(3, ABC + "link ^e;");
+        TextKit.faultyNetwork(1, ABC + "link ^5;");
+        TextKit.faultyNetwork(1, ABC + "link a ^5;");
+        TextKit.faultyNetwork(3, ABC + "link a ^e;");
+        TextKit.faultyNetwork(3, ABC + "link a b 5;pair ^e;");
+        TextKit.faultyNetwork(3, ABC + "link a b 5;pair ^e b;");
+        TextKit.faultyNetwork(3, ABC + "price ^e;");
+        TextKit.faultyNetwork(3, ABC + "price ^e a 5;");
+        TextKit.faultyNetwork(2, ABC + "price a ^401");
+        TextKit.faultyNetwork(2, ABC + "odd ^401;");
+        TextKit.faultyNetwork(3, ABC + "odd 0 ^e;");
+        TextKit.faultyNetwork(3, ABC + "odd 0 ^e a b c;");
+        TextKit.faultyBook(3, "pair ^e;");
+        TextKit.faultyBook(3, "pair ^e b;");
+        TextKit.faultyBook(3, "pair a ^e;");
+        TextKit.faultyBook(3, "weigh ^e 5;");
+        TextKit.faultyBook(3, "weigh a ^e 5;");
+        TextKit.faultyBook(3, "price ^e;");
+        TextKit.faultyBook(1, "crown 0^;");
+        TextKit.faultySentence(3, "with ^e and lone");
+        TextKit.faultySentence(2, "in ^6 and lone");
+        TextKit.faultySentence(1, "priced ^5 and lone");
+
         edge(TEXTS, "of one TOKEN the least");
         TextKit.faultyNetwork(1, ABC + "link a b ^1000;");
         TextKit.faultyNetwork(1, ABC + "link a ^lone 1;");

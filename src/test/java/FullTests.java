@@ -202,12 +202,31 @@ public final class FullTests {
             due("ways of " + (i + 1), x.ways(i + 1), 1);
             due("fate of the last of " + (i + 1), x.link(i, 4), 2);
         }
+        linksOfFour(x);
+        // a WEIGHT that is a price, too
+        TestKit.network(x, ABCD + "link a b 5;price a 5;");
+        due("five", x.best(), 5);
+        x.weigh(0, 1, 9);
+        due("nine", x.best(), 9);
         TestKit.network(x, TEN + "link a b 3;");
         due("one alone again", x.best(), 3);
         TestKit.network(x, TEN);
         due("none again", x.best(), 0);
         due("none again", x.ways(1), 0);
         due("lone", TestKit.who(x, 0, 255), 1);
+    }
+
+    /** From fewer LINKS than POINTS to more, each heavier than all ahead of it. */
+    private static void linksOfFour(HeavyPairs x) {
+        StringBuilder text = new StringBuilder(ABCD);
+        String[] links = {"a b", "c d", "a c", "b d", "a d", "b c"};
+        int[] heaviest = {1, 3, 4, 12, 16, 48};
+        for (int i = 0; i < 6; i++) {
+            text.append("link ").append(links[i]).append(' ').append(1 << i).append(';');
+            TestKit.network(x, text.toString());
+            due("best of " + (i + 1) + " links of four points", x.best(), heaviest[i]);
+            due("ways of " + (i + 1) + " links of four points", x.ways(1), i + 1);
+        }
     }
 
     private static void oneOfSixSets(int k) {

@@ -42,6 +42,10 @@ public final class CallTests {
 
     public static void main(String[] args) throws IOException {
         Path file = Path.of(System.getProperty("project.home", "."), "src/main/java/HeavyPairs.java");
+        if (ToolProvider.getSystemJavaCompiler() == null) {
+            System.out.println("this Java has no compiler: calls are not looked at");
+            return;
+        }
         readCalls(file);
         TestKit.due("rule 1: methods of the face", FACE.size(), 46);
         TestKit.due("methods were seen", CALLS.size() > 200, true);
